@@ -29,6 +29,7 @@ public final class PlainTest {
             written();
         }
         longRounds();
+        edgeOfLost();
         Due.end("PlainTest");
     }
 
@@ -284,6 +285,32 @@ public final class PlainTest {
                 for (int step = 0; step <= 3; step += 3) {
                     homes20000(step, m);
                 }
+            }
+        }
+    }
+
+    /** Two tables whose chains from numbers to 3000 have a tail and a round of 300 and of 301 together. */
+    private static void edgeOfLost() {
+        for (int turn = 0; turn < 2; turn++) {
+            play = new FigurePlay();
+            plain = new Plain();
+            setBase(16 - turn);
+            Random worths = new Random(turn == 0 ? 39 : 195);
+            for (int d = 0; d < 16; d++) {
+                int v = worths.nextInt(100001);
+                play.table(d, v);
+                plain.f[d] = v;
+            }
+            List<Plain.Chain> chains = plain.chains(0, 3000);
+            int[] together = new int[302];
+            for (Plain.Chain chain : chains) {
+                together[chain.lost() ? chain.told.size() : chain.tail + chain.round]++;
+            }
+            Due.holds("some have 300, some are lost", together[300] > 0 && together[301] > 0);
+            tails(0, 3000, chains);
+            homes(0, 3000, chains);
+            for (int n = 0; n <= 3000; n++) {
+                Due.is(told("chain round", 0, n), play.chain(0, n, 1), chains.get(n).round);
             }
         }
     }

@@ -36,6 +36,7 @@ public final class PromiseTest {
         count();
         wrongChangesNothing();
         keptIsRenewed();
+        keptByArguments();
         Due.end("PromiseTest");
     }
 
@@ -358,6 +359,9 @@ public final class PromiseTest {
         Due.is("come(3, 10, 6174, 0), a far round", y.come(3, 10, 6174, 0), 0);
         Due.is("come(3, 10, 6174, 1)", y.come(3, 10, 6174, 1), 1);
         Due.is("come(3, 10, MOST, 1)", y.come(3, 10, MOST, 1), NONE);
+        y.table(0, 5);
+        Due.is("0 comes to 5", y.come(0, 0, 5, 0), 1);
+        Due.is("none comes to 3, which is less", y.come(0, 0, 3, 0), 0);
     }
 
     /** Promise 13. */
@@ -680,5 +684,26 @@ public final class PromiseTest {
         Due.is("rounds in base 2", x.rounds(3, 255, -1), 10);
         x.base(10);
         Due.is("rounds in base 10", x.rounds(3, 999, -1), 2);
+    }
+
+    /** Calls that differ in one thing alone must not take one another's answers. */
+    private static void keptByArguments() {
+        FigurePlay x = new FigurePlay();
+        Due.is("few(7, 14, -1)", x.few(7, 14, -1), 2);
+        Due.is("withAll(7, 14, -1)", x.withAll(7, 14, -1), 3);
+        Due.is("summed(7, 14, -1)", x.summed(7, 14, -1), 2);
+        Due.is("summed(7, 14, 0)", x.summed(7, 14, 0), 7);
+        Due.is("summed(7, 15, 0)", x.summed(7, 15, 0), 1);
+        Due.is("summed(8, 15, 0)", x.summed(8, 15, 0), 9);
+        x.base(12);
+        Due.is("base 12, summed(8, 15, 0)", x.summed(8, 15, 0), 11);
+        Due.is("base 12, summed(8, 15, 1)", x.summed(8, 15, 1), 4);
+        Due.is("base 12, narrow(3, 3, -1)", x.narrow(3, 3, -1), 3);
+        x.base(10);
+        Due.is("base 10, narrow(3, 3, 0)", x.narrow(3, 3, 0), 153);
+        x.base(16);
+        Due.is("base 16, narrow(3, 3, 0)", x.narrow(3, 3, 0), 342);
+        Due.is("base 16, narrow(3, 2, -1)", x.narrow(3, 2, -1), 0);
+        Due.is("base 16, narrow(2, 2, -1)", x.narrow(2, 2, -1), 0);
     }
 }
