@@ -579,8 +579,10 @@ public final class FigurePlay {
                     circles.forget();
                 }
             }
-            for (int n = known; n <= m; n++) {
-                int tail = circles != null ? circles.tailFrom(n) : tailFrom(n);
+            for (int k = known; k <= m; k++) {
+                // Raised numbers lie above: from the greatest down, the way beyond is mostly known.
+                int n = step == RAISED ? m - (k - known) : k;
+                int tail = circles != null ? circles.tailFrom(n) : tailFrom(n, m);
                 if (n < tails.length) {
                     tails[n] = tail;
                 }
@@ -622,12 +624,23 @@ public final class FigurePlay {
             return countOrNone(i, seen);
         }
 
-        private int tailFrom(int n) {
+        private int tailFrom(int n, int m) {
             if (figures.growsForEver(step, n)) {
                 return LOST;
             }
+            if (step == RAISED) {
+                long after = figures.make(RAISED, n);
+                if (after > n && after <= m && after < tails.length) {
+                    return tailAheadOf(tails[(int) after]);
+                }
+            }
             path.follow(figures, step, n);
             return path.round == 0 ? LOST : path.tail;
+        }
+
+        /** One more ahead of a raised chain: these come round only by standing still, with a round of 1. */
+        private static int tailAheadOf(int tail) {
+            return tail == LOST || tail + 2 > MOST_TAIL ? LOST : tail + 1;
         }
     }
 
@@ -686,7 +699,7 @@ public final class FigurePlay {
 
     /** The rounds of one step, and to which of them the numbers from 0 on come. */
     private static final class Circles {
-        static final int NO_ONE = Integer.MAX_VALUE;
+        static final int NO_ONE = LARGE_M + 1;
         final Figures figures;
         final int step;
         final Slots slots;
@@ -1128,7 +1141,7 @@ public final class FigurePlay {
             least = width == 1 ? 0 : powerOf(base, width - 1);
             most = powerOf(base, width) - 1;
             size = 0;
-            take(width, base - 1, 0);
+            take(this, width, base - 1, 0);
         }
 
         private static int powerOf(int x, int e) {
@@ -1140,19 +1153,20 @@ public final class FigurePlay {
         }
 
         /** Falling figures; goes no deeper than the width, which is 6 at most. */
-        private void take(int open, int top, int sum) {
+        private static void take(Narrows to, int open, int top, int sum) {
             if (open <= 0) {
-                look(sum);
+                to.look(sum);
                 return;
             }
             for (int d = Math.min(top, MOST_BASE - 1); d >= 0; d--) {
-                if (sum + open * powers[d] < least) {
+                int power = to.powers[d];
+                if (sum + open * power < to.least) {
                     return;
                 }
-                if (sum + powers[d] <= most) {
-                    taken[d]++;
-                    take(open - 1, d, sum + powers[d]);
-                    taken[d]--;
+                if (sum + power <= to.most) {
+                    to.taken[d]++;
+                    take(to, open - 1, d, sum + power);
+                    to.taken[d]--;
                 }
             }
         }

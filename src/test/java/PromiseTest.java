@@ -246,7 +246,16 @@ public final class PromiseTest {
         Due.is("lost", x.chain(4, gone, 1), 0);
         Due.is("the last one told", x.chained(4, gone, 300), last);
         Due.is("none beyond", x.chained(4, gone, 301), NONE);
-        Due.is("first with a tail of 299", x.first(4, 299, 3000) <= comes ? 1 : 0, 1);
+        int first = NONE;
+        int lost = 0;
+        for (int n = 3000; n >= 0; n--) {
+            first = x.chain(4, n, 1) == 1 && x.chain(4, n, 0) == 299 ? n : first;
+            lost += x.chain(4, n, 1) == 0 ? 1 : 0;
+        }
+        Due.is("first with a tail of 299", x.first(4, 299, 3000), first);
+        Due.holds("there is one", first >= 0 && first <= comes);
+        Due.is("so many are lost", x.lost(4, 3000, -1), lost);
+        Due.is("the tallest has a tail of 299", x.tallest(4, 3000, 1), 299);
         Due.is("first with a tail of 300", x.first(4, 300, 3000), NONE);
     }
 
