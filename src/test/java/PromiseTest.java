@@ -40,24 +40,6 @@ public final class PromiseTest {
         Due.end("PromiseTest");
     }
 
-    private static FigurePlay inBase(int b) {
-        FigurePlay x = new FigurePlay();
-        x.base(b);
-        return x;
-    }
-
-    private static FigurePlay withTable(int b, int... worths) {
-        FigurePlay x = inBase(b);
-        for (int d = 0; d < 16; d++) {
-            x.table(d, d < worths.length ? worths[d] : 0);
-        }
-        return x;
-    }
-
-    private static FigurePlay squares() {
-        return withTable(10, 0, 1, 4, 9, 16, 25, 36, 49, 64, 81);
-    }
-
     /** Promise 1. */
     private static void newObject() {
         FigurePlay x = new FigurePlay();
@@ -120,8 +102,8 @@ public final class PromiseTest {
         Due.is("figure(MOST, 15)", x.figure(MOST, 15), 0);
         Due.is("figure(MOST + 1, -1)", x.figure(MOST + 1, -1), BAD);
         Due.is("figure(-1, 9)", x.figure(-1, 9), BAD);
-        Due.is("base 2, figure(MOST, -1)", inBase(2).figure(MOST, -1), 50);
-        Due.is("base 16, figure(255, 1)", inBase(16).figure(255, 1), 15);
+        Due.is("base 2, figure(MOST, -1)", Play.inBase(2).figure(MOST, -1), 50);
+        Due.is("base 16, figure(255, 1)", Play.inBase(16).figure(255, 1), 15);
     }
 
     /** Promise 5. */
@@ -139,17 +121,17 @@ public final class PromiseTest {
         Due.is("sorted counts 0s ahead", x.step(3, 1000), 999);
         Due.is("sorted of one figure", x.step(3, 7), 0);
         Due.is("product", x.step(5, 2345), 120);
-        FigurePlay squares = squares();
+        FigurePlay squares = Play.squares();
         Due.is("sum by the table", squares.step(0, 345), 50);
         Due.is("raised by the table", squares.step(4, 345), 395);
         Due.is("product by the table", squares.step(5, 345), 9 * 16 * 25);
         Due.is("turned without the table", squares.step(1, 345), 543);
         Due.is("sorted without the table", squares.step(3, 345), 543 - 345);
-        FigurePlay zero = withTable(10, 7);
+        FigurePlay zero = Play.withTable(10, 7);
         Due.is("sum of 0 is f of 0", zero.step(0, 0), 7);
         Due.is("raised of 0", zero.step(4, 0), 7);
         Due.is("product of 0", zero.step(5, 0), 7);
-        FigurePlay two = inBase(2);
+        FigurePlay two = Play.inBase(2);
         long ones = (1L << 49) - 1;
         Due.is("base 2, turned beyond MOST", two.step(1, (1L << 49) + ones - 1 - (1L << 47)), turnedBits());
         Due.is("base 2, sorted beyond MOST", two.step(3, (1L << 49) + (1L << 25) - 1),
@@ -163,7 +145,7 @@ public final class PromiseTest {
 
     /** Promise 5: what is above 10 to the 15 by PRODUCT. */
     private static void cappedProduct() {
-        FigurePlay x = withTable(10, 0, 1, 100000, 10);
+        FigurePlay x = Play.withTable(10, 0, 1, 100000, 10);
         Due.is("product of 222", x.step(5, 222), MOST);
         Due.is("product of 2223", x.step(5, 2223), MOST + 1);
         Due.is("product of 3222", x.step(5, 3222), MOST + 1);
@@ -214,12 +196,12 @@ public final class PromiseTest {
         Due.is("1 by raised, tail", x.chain(4, 1, 0), 301);
         Due.is("1 by raised, round", x.chain(4, 1, 1), 0);
         Due.is("MOST by added, tail", x.chain(2, MOST, 0), 1);
-        Due.is("squares of 4, tail", squares().chain(0, 4, 0), 0);
-        Due.is("squares of 4, round", squares().chain(0, 4, 1), 8);
-        Due.is("squares of 89, round", squares().chain(0, 89, 1), 8);
+        Due.is("squares of 4, tail", Play.squares().chain(0, 4, 0), 0);
+        Due.is("squares of 4, round", Play.squares().chain(0, 4, 1), 8);
+        Due.is("squares of 89, round", Play.squares().chain(0, 89, 1), 8);
         Due.is("what 2", x.chain(0, 1, 2), BAD);
         Due.is("what -1", x.chain(0, 1, -1), BAD);
-        FigurePlay two = inBase(2);
+        FigurePlay two = Play.inBase(2);
         Due.is("base 2, sorted is lost above MOST", two.chain(3, (1L << 49) + (1L << 24) - 1, 1), 0);
         Due.is("base 2, sorted is lost at once", two.chain(3, (1L << 49) + (1L << 24) - 1, 0), 1);
     }
@@ -229,7 +211,7 @@ public final class PromiseTest {
      * With n and 300 more told it is lost, though the next number would have come again.
      */
     private static void edgeOfLost() {
-        FigurePlay x = withTable(10, 0, 1);
+        FigurePlay x = Play.withTable(10, 0, 1);
         java.util.ArrayList<Long> way = new java.util.ArrayList<>();
         for (long n = 1000; n < 2000; n = x.step(4, n)) {
             way.add(n);
@@ -261,7 +243,7 @@ public final class PromiseTest {
 
     /** Promise 7. */
     private static void chained() {
-        FigurePlay x = squares();
+        FigurePlay x = Play.squares();
         long[] way = {4, 16, 37, 58, 89, 145, 42, 20, 4, 16};
         for (int i = 0; i < way.length; i++) {
             Due.is("chained(0, 4, " + i + ")", x.chained(0, 4, i), way[i]);
@@ -292,7 +274,7 @@ public final class PromiseTest {
         Due.is("rounds(0, 20001, -1)", x.rounds(0, 20001, -1), BAD);
         Due.is("rounds(0, -1, -1)", x.rounds(0, -1, -1), BAD);
         Due.is("rounds(0, 5, -2)", x.rounds(0, 5, -2), BAD);
-        Due.is("squares", squares().rounds(0, 1000, 2), 4);
+        Due.is("squares", Play.squares().rounds(0, 1000, 2), 4);
     }
 
     /** Promise 9. */
@@ -324,7 +306,7 @@ public final class PromiseTest {
         Due.is("tallest(0, -1, 0)", x.tallest(0, -1, 0), BAD);
         Due.is("tallest(0, 1, -1)", x.tallest(0, 1, -1), BAD);
         Due.is("tallest(0, 1, 2)", x.tallest(0, 1, 2), BAD);
-        FigurePlay none = withTable(10, 1, 1, 1, 1, 1, 1, 1, 1, 1, 1);
+        FigurePlay none = Play.withTable(10, 1, 1, 1, 1, 1, 1, 1, 1, 1, 1);
         Due.is("none comes round", none.tallest(4, 3000, 0), NONE);
         Due.is("none comes round, its tail", none.tallest(4, 3000, 1), NONE);
     }
@@ -342,15 +324,15 @@ public final class PromiseTest {
         Due.is("lost(0, 3001, -1)", x.lost(0, 3001, -1), BAD);
         Due.is("lost(0, -1, -1)", x.lost(0, -1, -1), BAD);
         Due.is("lost(0, 5, -2)", x.lost(0, 5, -2), BAD);
-        FigurePlay great = withTable(10, 1, 1, 1, 1, 1, 1, 1, 1, 1, 100000);
+        FigurePlay great = Play.withTable(10, 1, 1, 1, 1, 1, 1, 1, 1, 1, 100000);
         Due.is("lost by product above MOST", great.lost(5, 999, -1), 0);
         Due.is("9999 has a product above MOST", great.chain(5, 9999, 1), 0);
-        Due.is("f(0) above 0 makes 0 grow", withTable(10, 1, 1, 1, 1, 1, 1, 1, 1, 1, 1).lost(4, 3, 0), 0);
+        Due.is("f(0) above 0 makes 0 grow", Play.withTable(10, 1, 1, 1, 1, 1, 1, 1, 1, 1, 1).lost(4, 3, 0), 0);
     }
 
     /** Promise 12. */
     private static void come() {
-        FigurePlay x = squares();
+        FigurePlay x = Play.squares();
         Due.is("come(0, 1000, 1, 0)", x.come(0, 1000, 1, 0), 143);
         Due.is("come(0, 1000, 4, 0)", x.come(0, 1000, 4, 0), 857);
         Due.is("come(0, 1000, 4, 1)", x.come(0, 1000, 4, 1), 8);
@@ -402,8 +384,8 @@ public final class PromiseTest {
         for (long n : arent) {
             Due.is("alike(" + n + ")", x.alike(n), 0);
         }
-        Due.is("base 2, alike(5)", inBase(2).alike(5), 1);
-        Due.is("base 2, alike(6)", inBase(2).alike(6), 0);
+        Due.is("base 2, alike(5)", Play.inBase(2).alike(5), 1);
+        Due.is("base 2, alike(6)", Play.inBase(2).alike(6), 0);
     }
 
     /** Promise 15. */
@@ -414,7 +396,7 @@ public final class PromiseTest {
         for (long[] row : due) {
             Due.is("alikes(" + row[0] + ")", x.alikes(row[0]), row[1]);
         }
-        Due.is("base 2, alikes(MOST)", inBase(2).alikes(MOST), 63356754);
+        Due.is("base 2, alikes(MOST)", Play.inBase(2).alikes(MOST), 63356754);
     }
 
     /** Promise 16. */
@@ -425,7 +407,7 @@ public final class PromiseTest {
         for (long[] row : due) {
             Due.is("alikeAt(" + row[0] + ")", x.alikeAt(row[0]), row[1]);
         }
-        FigurePlay two = inBase(2);
+        FigurePlay two = Play.inBase(2);
         Due.holds("base 2, the last one", two.alikeAt(63356753) <= MOST && two.alikeAt(63356753) > MOST - 100000000);
         Due.is("base 2, one more", two.alikeAt(63356754), NONE);
     }
@@ -438,8 +420,8 @@ public final class PromiseTest {
         for (long[] row : due) {
             Due.is("next(" + row[0] + ")", x.next(row[0]), row[1]);
         }
-        Due.is("base 2, next(999999999999999)", inBase(2).next(999999999999999L), NONE);
-        Due.is("base 16, next(65536)", inBase(16).next(65536), 65537);
+        Due.is("base 2, next(999999999999999)", Play.inBase(2).next(999999999999999L), NONE);
+        Due.is("base 16, next(65536)", Play.inBase(16).next(65536), 65537);
     }
 
     /** Promise 18. */
@@ -450,7 +432,7 @@ public final class PromiseTest {
         for (int[] row : due) {
             Due.is("made(" + row[0] + ")", x.made(row[0]), row[1]);
         }
-        FigurePlay two = inBase(2);
+        FigurePlay two = Play.inBase(2);
         Due.is("base 2, made(176)", two.made(176), 4);
         Due.is("base 2, made(2)", two.made(2), 2);
         two.base(10);
@@ -470,10 +452,10 @@ public final class PromiseTest {
         Due.is("moved(6, 3, 2, 0)", x.moved(6, 3, 2, 0), 285714);
         Due.is("moved(12, 1, 1, 8)", x.moved(12, 1, 1, 8), 999999999999L);
         Due.is("moved(2, 1, 10, -1), no divisor", x.moved(2, 1, 10, -1), 0);
-        Due.is("base 2, moved(2, 1, 15, -1)", inBase(2).moved(2, 1, 15, -1), 0);
-        Due.is("base 2, moved(2, 15, 1, -1)", inBase(2).moved(2, 15, 1, -1), 0);
-        Due.is("base 2, moved(2, 1, 2, -1)", inBase(2).moved(2, 1, 2, -1), 0);
-        Due.is("base 16, moved(12, 1, 1, 14)", inBase(16).moved(12, 1, 1, 14), (1L << 48) - 1);
+        Due.is("base 2, moved(2, 1, 15, -1)", Play.inBase(2).moved(2, 1, 15, -1), 0);
+        Due.is("base 2, moved(2, 15, 1, -1)", Play.inBase(2).moved(2, 15, 1, -1), 0);
+        Due.is("base 2, moved(2, 1, 2, -1)", Play.inBase(2).moved(2, 1, 2, -1), 0);
+        Due.is("base 16, moved(12, 1, 1, 14)", Play.inBase(16).moved(12, 1, 1, 14), (1L << 48) - 1);
         int[][] wrong = {{1, 1, 1, -1}, {13, 1, 1, -1}, {2, 0, 1, -1}, {2, 16, 1, -1}, {2, 1, 0, -1}, {2, 1, 16, -1},
             {2, 1, 1, -2}};
         for (int[] a : wrong) {
@@ -503,7 +485,7 @@ public final class PromiseTest {
         Due.is("few(5, 1024, -1), beyond the base", x.few(5, 1024, -1), BAD);
         Due.is("few(5, min, -1), beyond the base", x.few(5, Integer.MIN_VALUE, -1), BAD);
         Due.is("few(5, -1, -1), all", x.few(5, -1, -1), 1);
-        FigurePlay hex = inBase(16);
+        FigurePlay hex = Play.inBase(16);
         Due.is("base 16, few(17, 32768, -1)", hex.few(17, 32768, -1), 2);
         Due.is("base 16, few(17, 32768, 0)", hex.few(17, 32768, 0), 15);
         hex.base(2);
@@ -541,9 +523,9 @@ public final class PromiseTest {
         Due.is("withAll(1, 1024, -1)", x.withAll(1, 1024, -1), BAD);
         Due.is("withAll(1, 511, -1), nine", x.withAll(1, 511, -1), BAD);
         Due.is("withAll(1, 2, -2)", x.withAll(1, 2, -2), BAD);
-        Due.is("base 8, withAll(1, -1, -1), eight of the base", inBase(8).withAll(1, -1, -1), 8);
-        Due.is("base 8, withAll(1, -1, 1)", inBase(8).withAll(1, -1, 1), 0);
-        Due.is("base 16, withAll(200, 65280, -1)", inBase(16).withAll(200, 65280, -1) >= 8 ? 1 : 0, 1);
+        Due.is("base 8, withAll(1, -1, -1), eight of the base", Play.inBase(8).withAll(1, -1, -1), 8);
+        Due.is("base 8, withAll(1, -1, 1)", Play.inBase(8).withAll(1, -1, 1), 0);
+        Due.is("base 16, withAll(200, 65280, -1)", Play.inBase(16).withAll(200, 65280, -1) >= 8 ? 1 : 0, 1);
     }
 
     /** Promise 22. */
@@ -564,7 +546,7 @@ public final class PromiseTest {
         Due.is("summed(1, 0, -1)", x.summed(1, 0, -1), BAD);
         Due.is("summed(1, 61, -1)", x.summed(1, 61, -1), BAD);
         Due.is("summed(1, 1, -2)", x.summed(1, 1, -2), BAD);
-        Due.is("not by the table", squares().summed(7, 10, 1), 8);
+        Due.is("not by the table", Play.squares().summed(7, 10, 1), 8);
     }
 
     /** Promise 23. */
@@ -577,8 +559,8 @@ public final class PromiseTest {
             Due.is("again(" + row[0] + ", " + row[1] + ")", x.again(row[0], row[1]), row[2]);
         }
         Due.is("as many times as n: again(1, 19683)", x.again(1, 19683), 19683);
-        Due.is("base 2, again(5, 31)", inBase(2).again(5, 31), 5);
-        Due.is("base 2, again(1, 4)", inBase(2).again(1, 4), NONE);
+        Due.is("base 2, again(5, 31)", Play.inBase(2).again(5, 31), 5);
+        Due.is("base 2, again(1, 4)", Play.inBase(2).again(1, 4), NONE);
     }
 
     /** Promise 24. */
@@ -602,7 +584,7 @@ public final class PromiseTest {
         }
         x.base(16);
         Due.is("then base 16, narrow(3, 3, -1)", x.narrow(3, 3, -1), 19);
-        Due.is("base 2, narrow(1, 6, -1)", inBase(2).narrow(1, 6, -1), 2);
+        Due.is("base 2, narrow(1, 6, -1)", Play.inBase(2).narrow(1, 6, -1), 2);
     }
 
     /** Promise 25. */
@@ -639,7 +621,7 @@ public final class PromiseTest {
         Due.is("raised(20001, -1)", x.raised(20001, -1), BAD);
         Due.is("raised(-1, -1)", x.raised(-1, -1), BAD);
         Due.is("raised(5, -2)", x.raised(5, -2), BAD);
-        Due.is("n itself, if its figures are worth 0", withTable(10).raised(20000, 0), 20000);
+        Due.is("n itself, if its figures are worth 0", Play.withTable(10).raised(20000, 0), 20000);
     }
 
     /** Promise 27. */
