@@ -129,7 +129,10 @@ final class EdgesOfAlike {
         Due.is("10000 in base 3", Play.inBase(3).made(10000), 3);
 
         Due.sentence(18, "Of several the first; nothing changes then.");
-        Edges.keeps("made", Play.inBase(2), x -> x.made(176), 4, x -> x.made(0), x -> x.made(10001));
+        FigurePlay used = new FigurePlay();
+        Due.is("made(176) in base 10", used.made(176), 2);
+        used.base(2);
+        Edges.keeps("made(176) in base 2", used, x -> x.made(176), 4, x -> x.made(0), x -> x.made(10001));
 
         Due.sentence(18, "MADE of ALIKE: the fewest (each above 0)");
         for (int b = 2; b <= 16; b++) {

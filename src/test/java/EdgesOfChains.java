@@ -58,8 +58,10 @@ final class EdgesOfChains {
         chain("RAISED to 1 above", Play.withOne(10, 8, 3), RAISED, MOST - 2, 1, 0);
         chain("PRODUCT of 10 to the 15", Play.withTable(10, 1, 1, 100000), PRODUCT, 222, 2, 1);
         chain("PRODUCT above", Play.withTable(10, 1, 1, 100000), PRODUCT, 2222, 1, 0);
-        chain("PRODUCT of 10 to the 15 less 8", Play.withTable(10, 0, 0, 0, 0, 152, 2269, 49999, 57991), PRODUCT, 4567, 2, 1);
-        chain("PRODUCT of 10 to the 15 and 1", Play.withTable(10, 0, 0, 0, 0, 1001, 50851, 2161, 9091), PRODUCT, 4567, 1, 0);
+        FigurePlay below = Play.withTable(10, 0, 0, 0, 0, 152, 2269, 49999, 57991);
+        chain("PRODUCT of 10 to the 15 less 8", below, PRODUCT, 4567, 2, 1);
+        FigurePlay above = Play.withTable(10, 0, 0, 0, 0, 1001, 50851, 2161, 9091);
+        chain("PRODUCT of 10 to the 15 and 1", above, PRODUCT, 4567, 1, 0);
         chain("TURNED to 1 above", Play.inBase(2), TURNED, 562973786897095L, 1, 0);
         chain("ADDED to 1 above", new FigurePlay(), ADDED, MOST, 1, 0);
         chain("SORTED far above", Play.inBase(2), SORTED, (1L << 49) + (1L << 25) - 1, 1, 0);
@@ -165,6 +167,8 @@ final class EdgesOfChains {
             31129, 193525, 203090);
         Edges.places("to 19998, which is in that round", round, (x, i) -> x.rounds(SUM, 19998, (int) i),
             19998, 31129, 193525, 203090);
+        Edges.places("to 20000, a round of 301 is LOST to all", Play.withTable(16, Tables.ROUND_301),
+            (x, i) -> x.rounds(SUM, 20000, (int) i), 59636, 187502, 193014);
     }
 
     private static void roundsByLeast() {
@@ -172,7 +176,15 @@ final class EdgesOfChains {
         FigurePlay x = Play.withTable(10, 5, 1, 2, 3, 4, 5, 6, 7, 8, 9);
         Edges.places("0 comes to 5, which is ahead of none", x, (y, i) -> y.rounds(SUM, 0, (int) i), 5);
         Edges.places("later numbers' rounds stand ahead of it", x, (y, i) -> y.rounds(SUM, 3, (int) i), 1, 2, 3, 5);
+        FigurePlay z = Play.withTable(10, 5, 7, 2, 3, 4, 5, 6, 7);
+        Edges.places("found as 5, 7 and 2", z, (y, i) -> y.rounds(SUM, 2, (int) i), 2, 5, 7);
         Due.is("each round is there once", new FigurePlay().rounds(SUM, 9999, -1), 10);
+        Edges.places("the most rounds by SUM as it is made", Play.inBase(16), (y, i) -> y.rounds(SUM, 20000, (int) i),
+            0, 1, 2, 3, 4, 5, 6, 7, 8, 9, 10, 11, 12, 13, 14, 15);
+        Edges.places("many rounds by SORTED", Play.inBase(2), (y, i) -> y.rounds(SORTED, 20000, (int) i),
+            0, 9, 21, 45, 49, 93, 105, 189, 217, 225, 381, 441, 465, 765, 889, 945, 961, 1533, 1785, 1905, 1953, 3069,
+            3577, 3825, 3937, 3969, 6141, 7161, 7665, 7905, 8001, 12285, 14329, 15345, 15841, 16065, 16129, 24573,
+            28665, 30705, 31713, 32193, 32385);
     }
 
     private static void noRounds() {

@@ -126,6 +126,7 @@ final class EdgesOfMultiples {
         Due.sentence(21, "how many figures (j = -1), the j-th. NONE; BAD");
         Edges.places("of 7, with 1, 2 and 3", new FigurePlay(), (x, j) -> x.withAll(7, 14, (int) j), 2, 3, 1);
         Due.is("none of 2 with 1 and 3", new FigurePlay().withAll(2, 10, -1), NONE);
+        Due.is("none of 200 with the 8 odd figures", Play.inBase(16).withAll(200, 0xAAAA, -1), NONE);
         Due.is("none, its first figure", new FigurePlay().withAll(2, 10, 0), NONE);
 
         Due.sentence(21, "Of several the first; nothing changes then.");

@@ -44,6 +44,10 @@ final class EdgesOfRaised {
         for (int w = 2; w <= 6; w++) {
             Due.holds("0 is not of " + w + " figures", new FigurePlay().narrow(w, 6, 0) != 0);
         }
+        for (int b = 2; b <= 16; b++) {
+            Due.is("all figures of base " + b, Play.inBase(b).narrow(1, 1, -1), b);
+            Due.is("the last figure of base " + b, Play.inBase(b).narrow(1, 1, b - 1), b - 1);
+        }
         Edges.places("the 6th power of 15 is too much", Play.inBase(16), (x, i) -> x.narrow(1, 6, (int) i), 0, 1);
         Due.is("6 figures in base 16", Play.inBase(16).narrow(6, 6, -1), 2);
     }
@@ -59,7 +63,8 @@ final class EdgesOfRaised {
         Edges.noneBehind("to 20000", new FigurePlay(), (x, i) -> x.bare(20000, (int) i), 1961);
 
         Due.sentence(25, "how many (i = -1), the i-th. NONE; BAD.");
-        Edges.places("to 100", new FigurePlay(), (x, i) -> x.bare(100, (int) i), 1, 3, 5, 7, 9, 20, 31, 42, 53, 64, 75, 86, 97);
+        Edges.places("to 100", new FigurePlay(), (x, i) -> x.bare(100, (int) i),
+            1, 3, 5, 7, 9, 20, 31, 42, 53, 64, 75, 86, 97);
 
         Due.sentence(25, "Of several the first; nothing changes then.");
         Edges.refused("a wrong M, and none", x -> x.bare(-1, 0));

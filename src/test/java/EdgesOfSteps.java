@@ -4,6 +4,17 @@ final class EdgesOfSteps {
     private static final int BAD = Edges.BAD, NONE = Edges.NONE;
     private static final int SUM = 0, TURNED = 1, ADDED = 2, SORTED = 3, RAISED = 4, PRODUCT = 5;
 
+    /** By base from 2 on: SUM, TURNED, SORTED and PRODUCT of 10 to the 15. */
+    private static final long[][] OF_MOST = {
+        {20, 23833475783L, 1125898832052225L, 0}, {28, 677591616414640L, 1852591314280852L, 0},
+        {31, 44231751115L, 1125532953826305L, 0}, {12, 56552, 1763916015623432L, 0},
+        {60, 2903675559859495L, 3631802422167685L, 0}, {46, 1421014668834352L, 1621287593803788L, 0},
+        {48, 44905002211L, 2246055426405441L, 0}, {64, 363020049040000L, 1389721883853792L, 56010528},
+        {1, 1, 999999999999999L, 0}, {90, 3921481321820680L, 4097438713865520L, 0},
+        {87, 479187382094409L, 1154161663056314L, 7785676800L}, {100, 3809359417610776L, 3859243249580304L, 0},
+        {90, 5185418928198755L, 10056560959938922L, 15941173248L},
+        {90, 1352127676486432L, 1638504841360128L, 11176704000L}, {85, 578825387395L, 4183040982745890L, 0}};
+
     private EdgesOfSteps() {
     }
 
@@ -181,6 +192,14 @@ final class EdgesOfSteps {
             Edges.ends("step " + step, (x, n) -> x.step(by, n), 0, 0, MOST, ofMost[step]);
         }
         Edges.refused("a wrong step of a wrong number", x -> x.step(6, MOST + 1));
+        for (int b = 2; b <= 16; b++) {
+            long[] of = OF_MOST[b - 2];
+            long[] due = {of[0], of[1], MOST + of[1], of[2], MOST + of[0], of[3]};
+            for (int step = 0; step < 6; step++) {
+                Due.is("step " + step + " of 10 to the 15, base " + b, Play.inBase(b).step(step, MOST), due[step]);
+                Due.is("step " + step + " of 0, base " + b, Play.inBase(b).step(step, 0), 0);
+            }
+        }
     }
 
     private static void sumAndRaised() {

@@ -5,10 +5,16 @@ final class EdgesToM {
     private static final int SUM = 0, TURNED = 1, ADDED = 2, SORTED = 3, RAISED = 4, PRODUCT = 5;
     private static final String TO_3000 = "Of numbers 0 to M (M to 3000) and a STEP";
 
+    /** By step, to 3000: how many are LOST, who is tallest, its TAIL. */
+    private static final int[][] BASE_2 = {{0, 127, 4}, {0, 2, 1}, {3000, 0, 0}, {0, 2, 2}, {3000, 0, 0}, {0, 2, 1}};
+    private static final int[][] BASE_16 = {{0, 511, 3}, {0, 16, 1}, {3000, 0, 0}, {0, 258, 8}, {3000, 0, 0},
+        {0, 683, 6}};
+
     private EdgesToM() {
     }
 
     static void all() {
+        bases();
         first();
         firstOfTail();
         tallest();
@@ -20,6 +26,26 @@ final class EdgesToM {
         comeByChains();
         makes();
         makesToM();
+    }
+
+    private static void bases() {
+        Due.sentence(9, "BASE is 2 to 16");
+        for (int step = 0; step < 6; step++) {
+            Due.is("base 2, step " + step, Play.inBase(2).first(step, BASE_2[step][2], 3000), BASE_2[step][1]);
+            Due.is("base 16, step " + step, Play.inBase(16).first(step, BASE_16[step][2], 3000), BASE_16[step][1]);
+        }
+
+        Due.sentence(10, "BASE is 2 to 16");
+        for (int step = 0; step < 6; step++) {
+            tall("base 2, step " + step, Play.inBase(2), step, 3000, BASE_2[step][1], BASE_2[step][2]);
+            tall("base 16, step " + step, Play.inBase(16), step, 3000, BASE_16[step][1], BASE_16[step][2]);
+        }
+
+        Due.sentence(11, "BASE is 2 to 16");
+        for (int step = 0; step < 6; step++) {
+            Due.is("base 2, step " + step, Play.inBase(2).lost(step, 3000, -1), BASE_2[step][0]);
+            Due.is("base 16, step " + step, Play.inBase(16).lost(step, 3000, -1), BASE_16[step][0]);
+        }
     }
 
     private static void first() {
@@ -137,6 +163,11 @@ final class EdgesToM {
         Due.is("3000 is the last", last.lost(RAISED, 3000, 813), 3000);
         Due.is("to 2999", last.lost(RAISED, 2999, -1), 813);
         Due.is("3000 is not there", last.lost(RAISED, 2999, 813), NONE);
+        FigurePlay growing = Play.withOne(10, 3, 100000);
+        int[][] due = {{0, 0}, {2, 0}, {3, 1}, {29, 3}, {30, 4}, {299, 57}, {300, 58}, {2999, 813}, {3000, 814}, {3, 1}};
+        for (int[] row : due) {
+            Due.is("to one M after the other, " + row[0], growing.lost(RAISED, row[0], -1), row[1]);
+        }
     }
 
     private static void come() {
@@ -182,6 +213,9 @@ final class EdgesToM {
         comers("16 is in the round of 4", Play.squares(), 1000, 16, NONE, NONE);
         comers("20 is the last of it", Play.squares(), 1000, 20, NONE, NONE);
         comers("2 is ahead of it", Play.squares(), 1000, 2, NONE, NONE);
+        FigurePlay two = Play.withTable(10, 0, 2, 1);
+        comers("1 of the round of 1 and 2", two, 2, 1, 2, 2);
+        comers("2 of the same round", two, 2, 2, NONE, NONE);
         comers("6972 is LOST by a round of 301", Play.withTable(16, Tables.ROUND_301), 3000, 6972, NONE, NONE);
         comers("10 to the 15", new FigurePlay(), 3000, MOST, NONE, NONE);
     }
@@ -190,7 +224,10 @@ final class EdgesToM {
         Due.sentence(12, "how many COME to a ROUND");
         comers("only 0 to 3 could", Play.squares(), 3, 4, 2, 8);
         comers("0 and 1 come elsewhere", Play.squares(), 1, 4, 0, 8);
+        comers("0 comes to 5, not to 3", Play.withTable(10, 5, 1, 2, 3, 4, 5), 0, 3, 0, 1);
+        comers("0 comes to 5, not to 8", Play.withTable(10, 5, 1, 2, 3, 4, 5, 6, 7, 8), 0, 8, 0, 1);
         Due.is("none to 10 comes to 6174", new FigurePlay().come(SORTED, 10, 6174, 0), 0);
+        Due.is("none to 520 comes to 32385 in base 2", Play.inBase(2).come(SORTED, 520, 32385, 0), 0);
         Due.is("it is there all the same", new FigurePlay().come(SORTED, 10, 6174, 1), 1);
 
         Due.sentence(12, "by CHAINS that come round, how long it is");
