@@ -90,7 +90,8 @@ public final class FigurePlay {
         if (!isRoundStep(step) || !within(m, 0, LARGE_M) || i < -1) {
             return BAD;
         }
-        Ways way = waysTo(step, m);
+        Ways way = waysBy(step);
+        way.reach(m);
         return way.circles == null ? NONE : way.circles.leastAt(m, i);
     }
 
@@ -100,14 +101,17 @@ public final class FigurePlay {
         if (!isStep(step) || !within(k, 0, MOST_TAIL) || !within(m, 0, SMALL_M)) {
             return BAD;
         }
-        return waysTo(step, m).leastWithTail(k, m);
+        Ways way = waysBy(step);
+        way.reach(m);
+        return way.leastWithTail(k, m);
     }
 
     public int tallest(int step, int m, int what) {
         if (!isStep(step) || !within(m, 0, SMALL_M) || !within(what, 0, 1)) {
             return BAD;
         }
-        Ways way = waysTo(step, m);
+        Ways way = waysBy(step);
+        way.reach(m);
         int n = way.withLongestTail(m);
         if (n < 0) {
             return NONE;
@@ -119,7 +123,9 @@ public final class FigurePlay {
         if (!isStep(step) || !within(m, 0, SMALL_M) || i < -1) {
             return BAD;
         }
-        return waysTo(step, m).lostAt(m, i);
+        Ways way = waysBy(step);
+        way.reach(m);
+        return way.lostAt(m, i);
     }
 
     public int come(int step, int m, long least, int what) {
@@ -133,7 +139,8 @@ public final class FigurePlay {
         if (what == 1) {
             return path.round;
         }
-        Ways way = waysTo(step, m);
+        Ways way = waysBy(step);
+        way.reach(m);
         return way.circles == null ? NONE : way.circles.comersTo(least, m);
     }
 
@@ -299,13 +306,12 @@ public final class FigurePlay {
         return set & ((1 << figures.base) - 1);
     }
 
-    private Ways waysTo(int step, int m) {
+    private Ways waysBy(int step) {
         Ways way = ways[step];
         if (way == null) {
             way = new Ways(figures, path, step, isRoundStep(step) ? new Circles(figures, step, slotsOnce()) : null);
             ways[step] = way;
         }
-        way.reach(m);
         return way;
     }
 
@@ -475,20 +481,17 @@ public final class FigurePlay {
             return falling - rising;
         }
 
+        /** A later 0 must still bring a product down to 0 that has gone above the most. */
         private long productOf(int size) {
             long product = 1;
             for (int k = 0; k < size; k++) {
-                product = capped(product, worth[row[k]]);
+                int by = worth[row[k]];
+                if (by == 0) {
+                    return 0;
+                }
+                product = product > MOST / by ? MOST + 1 : product * by;
             }
             return product;
-        }
-
-        /** A later 0 must still bring a product down to 0 that has gone above the most. */
-        private static long capped(long product, int by) {
-            if (by == 0) {
-                return 0;
-            }
-            return product > MOST / by ? MOST + 1 : product * by;
         }
     }
 
@@ -665,16 +668,18 @@ public final class FigurePlay {
 
         /** The slot of x, or less than 0 if x has none. */
         int find(long x) {
-            int at = slotFor(x);
-            return at >= 0 && keys[at] == keyOf(x) ? at : -1;
+            long key = keyOf(x);
+            int at = slotFor(key);
+            return at >= 0 && keys[at] == key ? at : -1;
         }
 
         boolean put(long x, int tail, int home) {
-            int at = slotFor(x);
+            long key = keyOf(x);
+            int at = slotFor(key);
             if (at < 0) {
                 return false;
             }
-            keys[at] = keyOf(x);
+            keys[at] = key;
             tails[at] = tail;
             homes[at] = home;
             return true;
@@ -684,9 +689,8 @@ public final class FigurePlay {
             return ((long) stamp << 32) | x;
         }
 
-        private int slotFor(long x) {
-            long key = keyOf(x);
-            int at = (int) ((x * 40503L) >> 4) & (SIZE - 1);
+        private int slotFor(long key) {
+            int at = (int) ((key * 40503L) >> 4) & (SIZE - 1);
             for (int k = 0; k < SIZE; k++) {
                 if (keys[at] == key || keys[at] >> 32 != stamp) {
                     return at;
@@ -1076,7 +1080,7 @@ public final class FigurePlay {
             }
             queued = 0;
             spread(START);
-            for (int k = 0; k < queued && from[goal] == UNSEEN; k++) {
+            for (int k = 0; k < queue.length && k < queued && from[goal] == UNSEEN; k++) {
                 spread(queue[k]);
             }
         }

@@ -1,18 +1,13 @@
-import java.io.IOException;
 import java.lang.reflect.Constructor;
 import java.lang.reflect.Field;
 import java.lang.reflect.Member;
 import java.lang.reflect.Method;
 import java.lang.reflect.Modifier;
-import java.nio.file.Files;
-import java.nio.file.Path;
 import java.util.Arrays;
 import java.util.Set;
 import java.util.TreeSet;
-import java.util.regex.Matcher;
-import java.util.regex.Pattern;
 
-/** The face of the class, and those rules of LANGUAGE.md that can be read off the source. */
+/** The face of the class, and how its classes inside are made; SourceTest looks at the source itself. */
 public final class LanguageTest {
     private static final String[] FACE = {
         "int base(int)", "int table(int,int)", "int figure(long,int)", "long step(int,long)",
@@ -23,10 +18,9 @@ public final class LanguageTest {
         "int summed(int,int,int)", "int again(int,int)", "long narrow(int,int,int)", "int bare(int,int)",
         "int raised(int,int)", "int count(int)"};
 
-    public static void main(String[] args) throws IOException {
+    public static void main(String[] args) {
         face();
         insides();
-        source(Files.readString(Path.of("src/main/java/FigurePlay.java")));
         Due.end("LanguageTest");
     }
 
@@ -46,11 +40,16 @@ public final class LanguageTest {
                 seen.add(told(method));
             } else {
                 isPrivate(method);
+                Due.holds(method + " has a name of its own", !namesOfFace().contains(method.getName()));
             }
         }
         Due.holds("the methods are " + seen, seen.equals(new TreeSet<>(Arrays.asList(FACE))));
         for (Field field : FigurePlay.class.getDeclaredFields()) {
-            if (!field.getName().equals("BAD") && !field.getName().equals("NONE")) {
+            if (field.getName().equals("BAD") || field.getName().equals("NONE")) {
+                Due.is(field + " is public static final", field.getModifiers(),
+                    Modifier.PUBLIC | Modifier.STATIC | Modifier.FINAL);
+                Due.holds(field + " is an int", field.getType() == int.class);
+            } else {
                 isPrivate(field);
             }
         }
@@ -66,11 +65,16 @@ public final class LanguageTest {
         Due.holds(member + " is private", member.isSynthetic() || Modifier.isPrivate(member.getModifiers()));
     }
 
-    private static void insides() {
+    private static Set<String> namesOfFace() {
         Set<String> names = new TreeSet<>();
         for (String method : FACE) {
             names.add(method.substring(method.indexOf(' ') + 1, method.indexOf('(')));
         }
+        return names;
+    }
+
+    private static void insides() {
+        Set<String> names = namesOfFace();
         Class<?>[] insides = FigurePlay.class.getDeclaredClasses();
         Due.holds("at most twelve classes", insides.length < 12);
         for (Class<?> inside : insides) {
@@ -86,35 +90,6 @@ public final class LanguageTest {
             for (Method method : inside.getDeclaredMethods()) {
                 Due.holds(method + " has a name of its own", !names.contains(method.getName()));
                 Due.holds(method + " takes at most seven", method.getParameterCount() <= 7);
-            }
-        }
-    }
-
-    private static void source(String text) {
-        String code = text.replaceAll("(?s)/\\*.*?\\*/", " ").replaceAll("//[^\n]*", " ");
-        String[] banned = {"\\bthrow\\b", "\\bthrows\\b", "\\btry\\b", "\\bcatch\\b", "\\bsynchronized\\b",
-            "\\bassert\\b", "->", "::", "Exact\\b", "\\bThread\\b", "\\bRandom\\b", "\\bSystem\\.(?!arraycopy)",
-            "\\bprotected\\b", "\\bpackage\\b", "\\bstatic\\s*\\{", "\\bnew\\s+\\w+\\([^)]*\\)\\s*\\{",
-            "\\bArrays\\.(?!copyOf\\b|copyOfRange\\b|fill\\b)", "import (?!java\\.util\\.(Arrays|ArrayList|List);)"};
-        for (String word : banned) {
-            Matcher found = Pattern.compile(word).matcher(code);
-            Due.holds("no " + word + " in the source", !found.find());
-        }
-        Due.holds("signs 1 to 127 alone", text.chars().allMatch(c -> c < 128));
-        methodsAreShort(code);
-    }
-
-    private static void methodsAreShort(String code) {
-        int began = -1;
-        String[] lines = code.split("\n");
-        for (int k = 0; k < lines.length; k++) {
-            boolean deep = lines[k].startsWith("        ") && !lines[k].startsWith("         ");
-            boolean high = lines[k].startsWith("    ") && !lines[k].startsWith("     ");
-            if ((deep || high) && lines[k].endsWith(") {")) {
-                began = k;
-            } else if ((deep || high) && lines[k].trim().equals("}") && began >= 0) {
-                Due.holds("short: " + lines[began].trim(), k - began <= 60);
-                began = -1;
             }
         }
     }
