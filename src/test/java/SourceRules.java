@@ -1,19 +1,14 @@
 import com.sun.source.tree.BinaryTree;
 import com.sun.source.tree.BlockTree;
 import com.sun.source.tree.ClassTree;
-import com.sun.source.tree.DoWhileLoopTree;
-import com.sun.source.tree.ExpressionTree;
-import com.sun.source.tree.ForLoopTree;
 import com.sun.source.tree.ImportTree;
 import com.sun.source.tree.LineMap;
-import com.sun.source.tree.LiteralTree;
 import com.sun.source.tree.MethodInvocationTree;
 import com.sun.source.tree.MethodTree;
 import com.sun.source.tree.NewClassTree;
 import com.sun.source.tree.Tree;
 import com.sun.source.tree.TypeCastTree;
 import com.sun.source.tree.VariableTree;
-import com.sun.source.tree.WhileLoopTree;
 import com.sun.source.util.TreePath;
 import com.sun.source.util.TreePathScanner;
 import com.sun.source.util.Trees;
@@ -137,24 +132,6 @@ final class SourceRules extends TreePathScanner<Void, Void> {
     }
 
     @Override
-    public Void visitForLoop(ForLoopTree tree, Void nothing) {
-        ends(tree.getCondition());
-        return super.visitForLoop(tree, nothing);
-    }
-
-    @Override
-    public Void visitWhileLoop(WhileLoopTree tree, Void nothing) {
-        ends(tree.getCondition());
-        return super.visitWhileLoop(tree, nothing);
-    }
-
-    @Override
-    public Void visitDoWhileLoop(DoWhileLoopTree tree, Void nothing) {
-        ends(tree.getCondition());
-        return super.visitDoWhileLoop(tree, nothing);
-    }
-
-    @Override
     public Void visitTypeCast(TypeCastTree tree, Void nothing) {
         if (tree.getType().getKind() != Tree.Kind.PRIMITIVE_TYPE) {
             tell("it casts to " + tree.getType());
@@ -169,17 +146,6 @@ final class SourceRules extends TreePathScanner<Void, Void> {
             tell("it joins " + tree);
         }
         return super.visitBinary(tree, nothing);
-    }
-
-    /** A loop that asks nothing, or the same at every turn, has no end that can be seen. */
-    private void ends(ExpressionTree condition) {
-        ExpressionTree asked = condition;
-        while (asked instanceof com.sun.source.tree.ParenthesizedTree inner) {
-            asked = inner.getExpression();
-        }
-        if (asked == null || asked instanceof LiteralTree) {
-            tell("a loop has no end that can be seen");
-        }
     }
 
     private void note(Element called) {

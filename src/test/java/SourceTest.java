@@ -43,9 +43,12 @@ public final class SourceTest {
             Iterable<? extends CompilationUnitTree> units = task.parse();
             task.analyze();
             SourceRules rules = new SourceRules(Trees.instance(task));
+            LoopRules loops = new LoopRules(Trees.instance(task));
             for (CompilationUnitTree unit : units) {
                 rules.scan(unit, null);
+                loops.scan(unit, null);
             }
+            rules.broken.addAll(loops.endless());
             return rules;
         }
     }
@@ -90,8 +93,12 @@ public final class SourceTest {
         lines.put("int a(int x) { return Math.addExact(x, 1); }", "addExact");
         lines.put("long a() { return System.nanoTime(); }", "nanoTime");
         lines.put("int a(int[][][] x) { return 0; }", "dimensions");
-        lines.put("void a() { for (;;) { } }", "no end");
-        lines.put("void a() { while (true) { } }", "no end");
+        lines.put("void a() { for (;;) { } }", "no bound");
+        lines.put("void a() { while (true) { } }", "no bound");
+        lines.put("void a(int x) { do { x++; } while (x != 7); }", "no bound");
+        lines.put("void a(int x) { for (int k = 0; k < x; k++) { x++; } }", "no bound");
+        lines.put("int m; void b() { m++; } void a() { for (int k = 0; k < m; k++) { b(); } }", "no bound");
+        lines.put("int m; void b() { m++; } void a() { while (m < 9) { b(); } }", "no bound");
         lines.put("static int a = 3;", "static");
         lines.put("static { }", "static");
         lines.put("class A { }", "static");
@@ -107,6 +114,7 @@ public final class SourceTest {
         }
         Files.writeString(file, "public final class Broken {\n" + callsInARow(9) + "}\n");
         SourceRules rules = read(file);
+        Due.is("nothing else is wrong with them", rules.broken.size(), 0);
         Due.is("nine methods, each of which calls the next", deep(rules.calls, "Broken.a1", new HashSet<>()), 9);
         Files.delete(file);
         Files.delete(folder);
